@@ -713,7 +713,7 @@ public final class BootsStove {
 
     /** One PAIR. */
     private static final class Boots {
-        final int number;
+        int number;
         int kind;
         int v;
         int wet;
@@ -737,6 +737,7 @@ public final class BootsStove {
         }
 
         void copyFrom(Boots other) {
+            number = other.number;
             kind = other.kind;
             v = other.v;
             wet = other.wet;
@@ -918,20 +919,14 @@ public final class BootsStove {
 
     /** How it goes on with one PAIR alone: the others do not bear on it. */
     private static final class Course {
-        private final Boots[] copies = new Boots[MOST_PAIRS];
+        final Boots boots = new Boots(0);
         private final Stove stove;
-        Boots boots;
 
         Course(Hut bare) {
             stove = new Stove(bare);
-            for (int b = 0; b < MOST_PAIRS; b++) {
-                copies[b] = new Boots(b);
-            }
-            boots = copies[0];
         }
 
         void begin(Boots from, Stove now) {
-            boots = copies[from.number];
             boots.copyFrom(from);
             stove.copyFrom(now);
         }

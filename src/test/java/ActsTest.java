@@ -58,6 +58,7 @@ public final class ActsTest {
         told.pair(0, 0, 0);
         told.pair(6, V, 0);
         runs(told, 1, 0, 7, 8 ^ V, 71, 10);
+        runs(told, 1, 0, 4, 0, 71, 10);
         runs(told, 1, 1, 7, (8 ^ V) - V + 3, 70, 11, 71, 10, 10);
         runs(told, 1, 2, 7, 2 * ((8 ^ V) - V + 3) + (2 ^ V) - V + 3, 40, 12, 70, 11, 71, 10, 10, 70, 11, 71, 10, 10);
         check.due("33: nothing changed", told.of(1, 2) + told.told(0), 0);

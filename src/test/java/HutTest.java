@@ -45,6 +45,14 @@ public final class HutTest {
         check.due("11: FULL ahead of a FAULT", Check.hut(x, "x"), BootsStove.FULL);
         check.due("11: THE TEXT stays", x.count(5), 7);
         check.due("11: the newest still holds", x.told(4), 7);
+
+        BootsStove again = new BootsStove();
+        again.pair(0, 0, 50);
+        Check.hut(again, "dry 50 b=0;cool 9;log 9;x");
+        check.due("11: nothing of a FAULT's clauses", again.of(0, 10), 10);
+        check.due("11: a HUT behind it", Check.hut(again, "dry 2 b=0"), 0);
+        check.due("11: has its own clauses alone", again.of(0, 10), 12);
+        check.due("11: COOL and LOG without", again.told(3) * 100 + again.told(4), 106);
     }
 
     private static void fault(String text, int due) {
@@ -181,6 +189,8 @@ public final class HutTest {
             }
         }
         holds("v<99", 0, 0, true);
+        holds("b<0|b=0", 0, 0, true);
+        holds("b<0&b=0", 0, 0, false);
         holds("v=14", 0, 0, false);
         holds("w=05", 0, 0, true);
     }
@@ -248,6 +258,9 @@ public final class HutTest {
         for (int what : new int[] {-1, 8, 9, 16, 19, 26, Integer.MIN_VALUE, Integer.MAX_VALUE}) {
             check.due("12: no what " + what, x.told(what), BootsStove.NONE);
         }
+        x.wet(0, 5);
+        check.due("12: bit 3 alone", x.told(7), 8);
+        x.wet(0, 0);
         x.pass(2);
         check.due("12: HOUR", x.told(0), 2);
         check.due("12: HEAT", x.told(1), 11);

@@ -49,6 +49,7 @@ public final class PairsTest {
         check.due("2: NONE ahead of FULL", x.pair(7, 0, 0), BootsStove.NONE);
         check.due("2: BAD ahead of FULL", x.pair(0, 0, 100), BootsStove.BAD);
         check.due("2: 6 are there", x.count(0), 6);
+        check.due("2: the last free is 5", x.of(5, 3), 5);
 
         BootsStove free = new BootsStove();
         free.pair(0, 0, 0);
@@ -153,7 +154,22 @@ public final class PairsTest {
         check.due("3: TOLD -13, v 9, ROW 5", x.of(1, 15), 1);
         check.due("3: FELT 0 at least", x.of(2, 10), 0);
         check.due("3: PAIR 0 at least", x.of(3, 10), 0);
+        damped2();
         check.due("3: PAIR does not rise", x.pass(1) + 100 * x.of(3, 2), 5001);
+    }
+
+    private static void damped2() {
+        int[] kinds = {0, 1, 2, 3, 5, 6};
+        BootsStove x = new BootsStove();
+        for (int kind : kinds) {
+            x.pair(kind, 0, 50);
+        }
+        Check.hut(x, "damp 40 b<9");
+        for (int b = 0; b < 6; b++) {
+            for (int p = 0; p < 6; p++) {
+                check.due("3: KIND " + kinds[b] + " far below 0 at " + p, x.of(b, 10 + p), 0);
+            }
+        }
     }
 
     private static void spoils() {

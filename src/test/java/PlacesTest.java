@@ -120,6 +120,7 @@ public final class PlacesTest {
         // 0 + 5 + 89 = 94; 0 and 1: 0 + 23 + 89; 0 and 2: 0 + 5 + 72 = 77; 1 and 2: 0 + 40 + 54 = 94
         check.due("18: 0 and 2", x.change(), 2);
         check.due("18: nothing changed", x.told(0) + x.of(0, 3) + x.of(2, 3), 3);
+        changeByLittle();
 
         BootsStove several = new BootsStove();
         several.pair(0, 0, 1);
@@ -133,6 +134,38 @@ public final class PlacesTest {
         Check.hut(several, "dry 9 p>3");
         // 4 and 5 dry 54 by then, 3 dries 1, 2 dries 10; 0 and 1 had best be at 3, 2 and 3 at 4 or 5
         check.due("18: of several the first", several.change(), 3);
+    }
+
+    private static void changeByLittle() {
+        BootsStove x = new BootsStove();
+        x.pair(0, 0, 0);
+        x.pair(0, 0, 0);
+        x.pair(0, 0, 26);
+        x.pair(0, 0, 99);
+        x.put(2, 1);
+        x.put(3, 0);
+        // 3 at 0 by 45, 2 at 1 by 27: only the last of six HOURS makes 27 of 25
+        check.due("18: as it is is best", x.change(), -5);
+        x.put(3, 1);
+        // 2 at 0 with 26, 3 at 1: 0 + 72; changed 0 + 54
+        check.due("18: 2 and 3", x.change(), 23);
+        x.wet(3, 27);
+        // 0 + 0 either way
+        check.due("18: none is less", x.change(), -5);
+        x.wet(3, 28);
+        check.due("18: by 1", x.change(), 23);
+        x.take(2, true);
+        check.due("18: by 1 with a TAKEN one", x.change(), 23);
+        x.take(2, false);
+        x.wet(2, 28);
+        x.wet(3, 0);
+        x.put(2, 1);
+        // 2 at 1 by 27: 1; at 0 none
+        check.due("18: by 1 in six HOURS", x.change(), 23);
+        x.wet(2, 26);
+        check.due("18: 26 are gone in six HOURS", x.change(), -5);
+        x.wet(2, 27);
+        check.due("18: so are 27", x.change(), -5);
     }
 
     private static void changeOfTaken() {

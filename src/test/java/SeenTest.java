@@ -6,6 +6,7 @@ public final class SeenTest {
         promise20();
         promise21();
         wetsOfKinds();
+        full();
         promise22();
         promise23();
         promise24();
@@ -101,6 +102,24 @@ public final class SeenTest {
         z.see(-1, 0, 0);
         z.see(0, 19, 1);
         check.due("21: 29 less 10", z.wets(0, 1), 29);
+    }
+
+    /** With all that can be: six PAIRS and five rows. */
+    private static void full() {
+        BootsStove x = new BootsStove();
+        for (int b = 0; b < 6; b++) {
+            x.pair(0, 0, 10 * b + 10);
+        }
+        for (int n = 0; n < 5; n++) {
+            x.see(5, 60, n);
+        }
+        check.due("21: 60 at WARM 0, always", x.wets(5, 0) * 100 + x.wets(5, 1), 160);
+        check.due("22: any v", x.can(5, 0), 10);
+        check.due("23: WARM 0 at 4 and 5", x.where(5), 48);
+        fraction("24: 210 less 60 is 150", x.odds(0, 150, 0), x.odds(0, 150, 1), 1, 6);
+        fraction("24: at most 200", x.odds(0, 200, 0), x.odds(0, 200, 1), 1, 1);
+        fraction("25: 210 by 6", x.mean(0, 0), x.mean(0, 1), 35, 1);
+        check.due("12: WET of all", x.told(5), 210);
     }
 
     private static void promise22() {

@@ -38,7 +38,11 @@ public final class TapesTest {
         check.due("37: nothing, whatever n", x.tape(3, -1, 99), 1);
         check.due("37: nothing, whatever n", x.tape(2, -1, -99), 1);
         check.due("37: it holds nothing", x.item(3, 0, 0), -11);
+        check.due("37: no item of it", x.read(3, 0), BootsStove.NO);
         check.due("37: TAPE 5 is one", x.tape(5, 0, 1), 1);
+        check.due("38: TAPE 5 is one", x.item(5, 0, 3), 1);
+        check.due("39: TAPE 5 is one", x.read(5, 0), 3);
+        check.due("40: TAPE 5 is one", x.shift(5, 0, 5, 0, 1), 1);
     }
 
     private static void promises38And39() {

@@ -10,6 +10,8 @@ public final class ToldByHandTest {
         promise30();
         promises31And32();
         imageKeeps();
+        imageKeepsRows();
+        comesFresh();
         imageKeepsNot();
         check.end("ToldByHandTest");
     }
@@ -161,6 +163,7 @@ public final class ToldByHandTest {
         x.item(0, 1, 50);
         x.item(0, 2, 60);
         check.due("30: the row ends with the PAIRS", x.judge(0, 0), -5);
+        check.due("30: TAPE 5 is one", x.judge(5, 0), 100);
     }
 
     private static void promises31And32() {
@@ -237,9 +240,56 @@ public final class ToldByHandTest {
         check.due("32: ROTA as it was: an HOUR, 1 is TAKEN", x.ends(0), 0);
         check.due("32: BOOK", x.count(4), 1);
         check.due("32: BOOK as it was", x.looked(), -5);
+        check.due("32: WET of all is of those that are", x.told(5), wet);
+        check.due("32: CRACKS of all", x.told(6), 2);
+        check.due("32: DRY are none", x.told(7), 0);
+        check.due("32: MEAN is of those that are", x.mean(0, 1) * 1000 + x.mean(0, 0), (80 + wet) % 2 == 0 ? 1000 + (80 + wet) / 2 : 2080 + wet);
         check.due("32: another KIND may come as 2", x.pair(3, 9, 9), 2);
         check.due("32: the KIND of 2", x.of(2, 0), 3);
         check.due("32: the ROTA's n", x.undo(), 2);
+    }
+
+    /** What comes where a PAIR was has nothing of it. */
+    private static void comesFresh() {
+        BootsStove x = new BootsStove();
+        x.image();
+        x.pair(6, 0, 50);
+        x.row(0, 2, 5);
+        x.undo();
+        x.pair(1, 0, 50);
+        x.pass(1);
+        x.take(0, true);
+        x.undo();
+        x.pair(6, 0, 50);
+        check.due("32: not TAKEN", x.of(0, 4), 0);
+        check.due("32: no CRACKS", x.of(0, 5), 0);
+        check.due("32: a ROW of 0", x.row(0, 2, 1), 0);
+    }
+
+    /** SEEN, ROTA and BOOK come back row by row. */
+    private static void imageKeepsRows() {
+        BootsStove x = new BootsStove();
+        x.pair(0, 0, 50);
+        x.pair(0, 0, 60);
+        x.see(1, 53, 1);
+        x.rota(2, 1);
+        x.rota(0, 0);
+        x.book(1, 60);
+        x.image();
+        x.see(-1, 0, 0);
+        x.see(0, 51, 2);
+        x.rota(-1, 0);
+        x.rota(0, 0);
+        x.rota(3, 0);
+        x.book(-1, 0);
+        x.book(0, 51);
+        x.undo();
+        check.due("32: SEEN of PAIR 1", x.wets(1, 0) * 100 + x.wets(1, 1), 160);
+        check.due("32: SEEN of PAIR 0 is none", x.wets(0, 0), 100);
+        check.due("32: ROTA: 1 is TAKEN, an HOUR", x.ends(0), 40);
+        check.due("32: BOOK of PAIR 1", x.looked(), -5);
+        x.wet(1, 61);
+        check.due("32: BOOK of PAIR 1", x.looked(), 0);
     }
 
     private static void imageKeepsNot() {
