@@ -50,6 +50,7 @@ public final class HutTest {
         again.pair(0, 0, 50);
         Check.hut(again, "dry 50 b=0;cool 9;log 9;x");
         check.due("11: nothing of a FAULT's clauses", again.of(0, 10), 10);
+        Check.hut(again, "dry 50 b=3;cool 9;log 9;x");
         check.due("11: a HUT behind it", Check.hut(again, "dry 2 b=0"), 0);
         check.due("11: has its own clauses alone", again.of(0, 10), 12);
         check.due("11: COOL and LOG without", again.told(3) * 100 + again.told(4), 106);

@@ -120,6 +120,12 @@ public final class SeenTest {
         fraction("24: at most 200", x.odds(0, 200, 0), x.odds(0, 200, 1), 1, 1);
         fraction("25: 210 by 6", x.mean(0, 0), x.mean(0, 1), 35, 1);
         check.due("12: WET of all", x.told(5), 210);
+        check.due("12: CRACKS of all", x.told(6), 0);
+        check.due("12: DRY", x.told(7), 0);
+        check.due("16: PAIR 0 by 10", x.night(1), 1);
+        check.due("17: PAIR 0 by 10", x.placed(1, 0), 1);
+        // 4 or 5 at PLACE 0 is 45 less WET, and 0 at theirs 10 more: the first of the two
+        check.due("18: 0 and 4", x.change(), 4);
     }
 
     private static void promise22() {
