@@ -2,12 +2,18 @@
 final class Check {
     private int looked;
     private int wrong;
+    private String words = "";
+
+    /** The document's words that the next answers hold to: they stand ahead of a wrong one. */
+    void sentence(String ofTheDocument) {
+        words = "\"" + ofTheDocument + "\": ";
+    }
 
     void due(String call, long got, long want) {
         looked++;
         if (got != want) {
             wrong++;
-            System.out.println(call + " answered " + got + ", due is " + want);
+            System.out.println(words + call + " answered " + got + ", due is " + want);
         }
     }
 
