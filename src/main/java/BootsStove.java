@@ -469,7 +469,8 @@ public final class BootsStove {
 
     public int looked() {
         for (int i = 0; i < book.count; i++) {
-            if (room.boots[book.first[i]].wet != book.second[i]) {
+            int pair = book.first[i];
+            if (!noPair(pair) && room.boots[pair].wet != book.second[i]) {
                 return i;
             }
         }
@@ -657,6 +658,9 @@ public final class BootsStove {
         int was = room.boots[pair].place;
         int other = room.whoIsAt(place);
         for (int i = 0; i < seen.count; i++) {
+            if (noPair(seen.first[i])) {
+                return false;
+            }
             Boots boots = room.boots[seen.first[i]];
             int at = boots.place;
             if (boots.number == pair) {
@@ -1026,10 +1030,12 @@ public final class BootsStove {
         }
 
         int append(int a, int b, int c) {
-            first[count] = a;
-            second[count] = b;
-            third[count] = c;
-            count++;
+            if (!isFull()) {
+                first[count] = a;
+                second[count] = b;
+                third[count] = c;
+                count++;
+            }
             return count;
         }
 
@@ -1079,8 +1085,8 @@ public final class BootsStove {
             }
         }
 
-        void appendTest(int letter, int sign, int number) {
-            append((letter * SIGNS + sign) * NUMBERS + number);
+        static int codeOfTest(int letter, int sign, int number) {
+            return (letter * SIGNS + sign) * NUMBERS + number;
         }
 
         /** The tests since the last end are those of a clause that adds so much. */
@@ -1284,7 +1290,7 @@ public final class BootsStove {
             if (number < 0) {
                 return false;
             }
-            hut.appendTest(letter, compare, number);
+            hut.append(Hut.codeOfTest(letter, compare, number));
             return true;
         }
 

@@ -408,7 +408,8 @@ public final class EdgesOfHutsTest {
         x.set(0, 0);
         for (int n = 0; n < 6; n++) {
             check.due("so many HUTS", x.count(1), n);
-            check.due("a FAULT is none", Check.hut(x, "cool 50;dry 90 b=0;!"), -29);
+            check.due("a FAULT is none", Check.hut(x, "cool 50;dry 90 b=1;dry 90 b=0;!"), -40);
+            check.due("the one that held holds", x.of(0, 10), n);
             check.due("its number", Check.hut(x, "dry " + (n + 1) + " b=0"), n);
             check.due("it holds", x.of(0, 10), n + 1);
             check.due("with COOL of its own", x.told(3), 1);
