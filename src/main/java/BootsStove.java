@@ -752,20 +752,21 @@ public final class BootsStove {
         }
 
         int driesAt(int at, Stove stove) {
-            int sum = stove.warmAt(at) + stove.hut.extraFor(this, at, stove.hour);
+            int warm = stove.warmAt(at);
+            int sum = warm + stove.hut.extraFor(this, at, stove.hour);
             switch (kind) {
-                case LEATHER: return Math.max(0, asLeather(sum, at, stove));
+                case LEATHER: return Math.max(0, asLeather(sum, warm));
                 case FELT: return Math.max(0, sum / 2);
                 case STUFFED: return Math.max(0, asStuffed(sum));
-                case GUIDES: return Math.max(0, asLeather(sum, at, stove) + (stove.hour % 4 == 0 ? 2 : 0));
+                case GUIDES: return Math.max(0, asLeather(sum, warm) + (stove.hour % 4 == 0 ? 2 : 0));
                 case SOCKS: return wet < v ? 0 : Math.max(0, sum / 2);
                 case TOLD: return Math.max(0, asStuffed(sum) + toldRow[stove.hour % PARTS]);
                 default: return Math.max(0, sum);
             }
         }
 
-        private static int asLeather(int sum, int at, Stove stove) {
-            return stove.warmAt(at) > 8 ? sum / 2 : sum;
+        private static int asLeather(int sum, int warm) {
+            return warm > 8 ? sum / 2 : sum;
         }
 
         private int asStuffed(int sum) {
@@ -944,8 +945,7 @@ public final class BootsStove {
             begin(from, now);
             boots.place = at;
             for (int k = 0; k < hours; k++) {
-                boots.letHourGo(stove);
-                stove.letHourGo();
+                letHourGo();
             }
             return boots.wet;
         }

@@ -30,6 +30,7 @@ public final class FaceTest {
         check.due("a class that is public and final", BootsStove.class.getModifiers(), Modifier.PUBLIC | Modifier.FINAL);
         check.due("one constructor", BootsStove.class.getDeclaredConstructors().length, 1);
         check.due("it is public", BootsStove.class.getConstructor().getModifiers(), Modifier.PUBLIC);
+        sizes();
         if (args.length > 0) {
             language(Files.readString(Path.of(args[0]), StandardCharsets.ISO_8859_1));
         }
@@ -45,8 +46,6 @@ public final class FaceTest {
         int open = 0;
         for (Field f : BootsStove.class.getDeclaredFields()) {
             open += Modifier.isPrivate(f.getModifiers()) ? 0 : 1;
-            boolean isState = Modifier.isStatic(f.getModifiers()) && !Modifier.isFinal(f.getModifiers());
-            check.due("static state " + f, isState ? 1 : 0, 0);
         }
         check.due("constants that can be seen", open, 5);
     }
@@ -75,7 +74,35 @@ public final class FaceTest {
         }
     }
 
+    /** Rules 2, 5 and 11: the classes, their fields, what a method takes. */
+    private static void sizes() {
+        Class<?>[] inside = BootsStove.class.getDeclaredClasses();
+        check.due("rule 11: classes, above 12", Math.max(12, inside.length + 1), 12);
+        fieldsAndMethods(BootsStove.class);
+        for (Class<?> one : inside) {
+            check.due("rule 2: classes inside " + one, one.getDeclaredClasses().length, 0);
+            fieldsAndMethods(one);
+        }
+    }
+
+    private static void fieldsAndMethods(Class<?> one) {
+        int fields = 0;
+        for (Field f : one.getDeclaredFields()) {
+            if (Modifier.isStatic(f.getModifiers())) {
+                boolean isConstant = Modifier.isFinal(f.getModifiers()) && (f.getType() == int.class || f.getType() == long.class);
+                check.due("rule 5: static state " + f, isConstant ? 0 : 1, 0);
+            } else {
+                fields++;
+            }
+        }
+        check.due("rule 11: fields of " + one + ", above 20", Math.max(20, fields), 20);
+        for (Method m : one.getDeclaredMethods()) {
+            check.due("rule 11: what " + m + " takes, above 7", Math.max(7, m.getParameterCount()), 7);
+        }
+    }
+
     private static void language(String source) {
+        methodLengths(source.split("\n"));
         String code = Pattern.compile("/\\*.*?\\*/", Pattern.DOTALL).matcher(source).replaceAll("").replaceAll("//[^\n]*", "");
         for (String ruledOut : RULED_OUT) {
             boolean isThere = Pattern.compile(ruledOut, Pattern.MULTILINE).matcher(code).find();
@@ -85,5 +112,23 @@ public final class FaceTest {
             boolean isOther = line.startsWith("import ") && !line.equals("import java.util.Arrays;");
             check.due(line, isOther ? 1 : 0, 0);
         }
+    }
+
+    private static void methodLengths(String[] lines) {
+        int begun = 0;
+        int methods = 0;
+        for (int i = 0; i < lines.length; i++) {
+            // a method of the class stands 4 in, one of a class inside 8; what ends a block there is shorter
+            boolean isHead = lines[i].matches("( {4}| {8})[a-zA-Z].*\\) \\{") && !lines[i].matches(" *(if|for|while|switch) .*");
+            if (isHead) {
+                begun = i;
+                methods++;
+            }
+            boolean isEnd = lines[i].equals("    }") || lines[i].equals("        }");
+            if (isEnd) {
+                check.due("rule 11: lines of " + lines[begun].trim() + ", above 60", Math.max(60, i - begun + 1), 60);
+            }
+        }
+        check.due("methods found", methods > 40 ? 1 : 0, 1);
     }
 }
